@@ -11,6 +11,7 @@ final class AheadTest {
         sends();
         sendsOfTied();
         meets();
+        meetsAtTheEnd();
         rounds();
         odds();
         oddsOfWeakTides();
@@ -56,7 +57,6 @@ final class AheadTest {
         check.due("a tied one where it lies", tied.when(0, 0), 0);
     }
 
-    /** A way of 8 kerbs, 400 tides long: 20 tides from drift to drift. */
     private static void whensAtTheEnd() {
         TwoKerbs x = Check.told("m20 1 0;k0 19;k1 19;d0 1 1;t0;");
         check.due("in the last of 20", x.when(0, 1), 20);
@@ -119,6 +119,18 @@ final class AheadTest {
         check.due("they change places for ever", apart.meet(0, 1), TwoKerbs.NONE);
         apart.ties(0, 1);
         check.due("a tied one waits", apart.meet(0, 1), 1);
+    }
+
+    /** Two things go round one behind the other, till the kerb of height 1 holds up the first one. */
+    private static void meetsAtTheEnd() {
+        TwoKerbs last = Check.told("m19 11 0;k0 0;k0 1;k0 0;k0 0;k0 0;k0 0;k0 0;k0 0;"
+                + "d0 1 1;d1 2 4;d2 3 4;d3 4 4;d4 5 4;d5 6 4;d6 7 4;d7 0 3;t6;t1;");
+        check.due("400 tides from now", last.meet(0, 1), 400);
+        TwoKerbs late = Check.told("m19 13 6;k0 0;k0 0;k0 0;k0 1;k0 0;k0 0;k0 0;k0 0;"
+                + "d0 1 4;d1 2 4;d2 3 1;d3 4 4;d4 5 4;d5 6 4;d6 7 4;d7 0 3;t1;t0;");
+        check.due("401 tides from now", late.meet(0, 1), TwoKerbs.NONE);
+        late.tides(1);
+        check.due("a tide later", late.meet(0, 1), 401);
     }
 
     private static void rounds() {
