@@ -105,6 +105,8 @@ final class DoneTest {
         x.tides(1);
         x.undo();
         check.due("under way again", x.thing(0, 2), 2);
+        check.due("drifts again", x.now(2), 2);
+        check.due("the tide again", x.now(0), 1);
         check.due("to 2", x.thing(0, 1), 2);
     }
 

@@ -46,6 +46,10 @@ final class SeenTest {
         x.found(0, 0);
         x.found(2, 99);
         check.due("on 0 in tide 0, on 2 in tide 99", x.began(), 0b0001);
+        x.found(0, 99);
+        check.due("not on 0 in tide 99", x.began(), 0);
+        x.forget();
+        x.found(0, 0);
         x.ties(0, 1);
         x.tides(7);
         check.due("not as it is now", x.began(), 0b0001);

@@ -14,6 +14,7 @@ final class TownsTest {
         textsThatEndTooEarly();
         faultChangesNothing();
         readAnew();
+        textsAheadAreGone();
         kerbs();
         things();
         nows();
@@ -115,6 +116,8 @@ final class TownsTest {
         fault("k0 0;;", -15);
         fault("k 00 0;", -12);
         fault("k0 01;", -13);
+        fault("k0 09;", -13);
+        fault("k0 0;" + (char) 0, -15);
         fault("k0 100;", -13);
         fault("k0 4294967296;", -13);
         fault("k0 18446744073709551617;", -13);
@@ -170,7 +173,8 @@ final class TownsTest {
     private static void readAnew() {
         TwoKerbs x = Check.told("m7 2 1;k0 0;k1 0;d0 1 3;t0;t1;");
         x.ties(1, 1);
-        x.tides(5);
+        x.tides(2);
+        x.keep(0);
         x.keep(1);
         x.found(0, 0);
         x.saw(0, 0);
@@ -190,8 +194,41 @@ final class TownsTest {
         check.due("anew: kerb(0, 2)", x.kerb(0, 2), 0);
         check.due("anew: kerb(0, 3)", x.kerb(0, 3), 1);
         check.due("anew: undo()", x.undo(), TwoKerbs.STATE);
+        check.due("anew: back(0)", x.back(0), TwoKerbs.STATE);
         check.due("anew: back(1)", x.back(1), TwoKerbs.STATE);
         check.due("anew: trace() is not told by a text", x.trace(), 1);
+        x.ties(1, 1);
+        Check.type(x, "k0 0;t0;");
+        x.towns();
+        check.due("anew: a thing that is no more is not tied", x.ties(0, 1), 1);
+        Check.type(x, "");
+        check.due("an empty text", x.towns(), 0);
+        check.due("no kerbs then", x.count(0), 0);
+        check.due("no things then", x.count(1), 0);
+    }
+
+    /** A text is read without regard to the one ahead of it, be that faulty or longer. */
+    private static void textsAheadAreGone() {
+        TwoKerbs x = new TwoKerbs();
+        Check.type(x, "m5 1 1;k0 0;k1 1;d0 1 2;t0;q");
+        x.towns();
+        x.clear();
+        Check.type(x, "k1 7;");
+        check.due("behind a faulty one", x.towns(), 1);
+        int[] counts = {1, 0, 10, 3, 0, 0, 0, 0};
+        for (int what = 0; what < counts.length; what++) {
+            check.due("behind a faulty one: count(" + what + ")", x.count(what), counts[what]);
+        }
+        check.due("behind a faulty one: kerb(0, 2)", x.kerb(0, 2), 0);
+        Check.type(x, "k0 123   ;");
+        x.clear();
+        Check.type(x, "k0 1");
+        check.due("behind a longer one with digits", x.towns(), -14);
+        x.clear();
+        Check.type(x, "k0      ;");
+        x.clear();
+        Check.type(x, "k0");
+        check.due("behind a longer one with blanks", x.towns(), -12);
     }
 
     private static void kerbs() {
