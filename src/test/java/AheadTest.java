@@ -144,7 +144,8 @@ final class AheadTest {
         check.due("all kerbs, a tide each", Check.told("m19 1 0;k0 18;k0 18;k0 18;k0 18;k0 18;k0 18;k0 18;k0 18;"
                 + "d0 1 4;d1 2 4;d2 3 4;d3 4 4;d4 5 4;d5 6 4;d6 7 4;d7 0 4;t0;").round(0), 152);
         // Levels 1, 4, 0, 3, 6, 2, 5: from 0 to 2 to 1 to 3 to 0.
-        check.due("by the levels", Check.told("m7 3 1;k0 4;k0 2;k1 5;k1 0;d0 2 2;d1 3 1;d2 1 3;d3 0 1;t0;").round(0), 21);
+        TwoKerbs levels = Check.told("m7 3 1;k0 4;k0 2;k1 5;k1 0;d0 2 2;d1 3 1;d2 1 3;d3 0 1;t0;");
+        check.due("by the levels", levels.round(0), 21);
         TwoKerbs x = Check.told("m2 0 0;k0 0;k0 0;d0 1 2;d1 0 1;t0;");
         x.tides(1);
         check.due("under way", x.round(0), 6);
