@@ -6,15 +6,19 @@ import java.lang.reflect.Modifier;
 import java.nio.charset.StandardCharsets;
 import java.nio.file.Files;
 import java.nio.file.Path;
+import java.util.ArrayList;
 import java.util.Arrays;
+import java.util.List;
 import java.util.Set;
 import java.util.TreeSet;
 import java.util.regex.Matcher;
 import java.util.regex.Pattern;
 
-/** The public face as the document prints it, and rules of LANGUAGE.md that can be seen from outside. */
+/** The public face just as the document prints it, and nothing beside it (rule 1 of LANGUAGE.md). */
 final class FaceTest {
     private static final Check check = new Check();
+    private static final String SOURCE = "src/main/java/TwoKerbs.java";
+    private static final String DOCUMENT = "../shared/DOC.md";
     private static final Set<String> METHODS = new TreeSet<>(Arrays.asList(
             "int type(int)", "int clear()", "int towns()", "int kerb(int,int)", "int thing(int,int)",
             "int now(int)", "int tides(int)", "int ties(int,int)", "int carries(int,int)", "int undo()",
@@ -22,17 +26,53 @@ final class FaceTest {
             "int send(int,int,int)", "int meet(int,int)", "int round(int)", "int odds(int,int,int,int,int)",
             "int found(int,int)", "int began()", "int saw(int,int)", "int laws(int)", "int forget()",
             "int rate(int,int)", "int keep(int)", "int back(int)", "int count(int)", "long trace()"));
-    private static final Pattern FORBIDDEN = Pattern.compile(
-            "\\b(throw|throws|try|catch|synchronized|assert)\\b|->|::");
 
     public static void main(String[] args) throws IOException {
+        printedFace();
+        promisedCalls();
         constants();
         constructors();
         methods();
         fields();
         nestedClasses();
-        source();
         check.end();
+    }
+
+    /** Line by line what the document prints, with the names of the parameters, and in its order. */
+    private static void printedFace() throws IOException {
+        List<String> printed = new ArrayList<>();
+        String document = read(DOCUMENT);
+        int begin = document.indexOf("```java\n", document.indexOf("## The public face")) + 8;
+        for (String line : document.substring(begin, document.indexOf("```", begin)).split("\n")) {
+            printed.add(line.replaceAll("[;{ ]+$", ""));
+        }
+        List<String> written = new ArrayList<>();
+        for (String line : read(SOURCE).split("\n")) {
+            // What stands deeper than four blanks belongs to the classes inside.
+            if (line.matches("( {4})?public .*")) {
+                written.add(line.replaceAll("[;{ ]+$", ""));
+            }
+        }
+        written.add("}");
+        check.due("lines of the printed face", printed.size(), 34);
+        check.holds("the face is printed so: " + printed + " and written so: " + written, printed.equals(written));
+    }
+
+    /** Each promise names its call just as the face does. */
+    private static void promisedCalls() throws IOException {
+        Matcher promise = Pattern.compile("(?m)^## Promise (\\d+): .*\n\n`([^`]+)`").matcher(read(DOCUMENT));
+        String source = read(SOURCE);
+        int promises = 0;
+        while (promise.find()) {
+            promises++;
+            check.due("number of the promise", Integer.parseInt(promise.group(1)), promises);
+            check.holds(promise.group(2) + " is written", source.contains("    public " + promise.group(2) + " {\n"));
+        }
+        check.due("promises", promises, 30);
+    }
+
+    private static String read(String path) throws IOException {
+        return Files.readString(Path.of(path), StandardCharsets.ISO_8859_1);
     }
 
     private static void constants() {
@@ -97,16 +137,5 @@ final class FaceTest {
             check.holds(nested + " is static", Modifier.isStatic(nested.getModifiers()));
             check.holds(nested + " is not public", !Modifier.isPublic(nested.getModifiers()));
         }
-        check.holds("twelve classes at most", TwoKerbs.class.getDeclaredClasses().length < 12);
-    }
-
-    private static void source() throws IOException {
-        String code = Files.readString(Path.of("src/main/java/TwoKerbs.java"), StandardCharsets.ISO_8859_1);
-        String bare = code.replaceAll("(?s)/\\*.*?\\*/", "").replaceAll("//[^\n]*", "");
-        Matcher matcher = FORBIDDEN.matcher(bare);
-        while (matcher.find()) {
-            check.holds("no " + matcher.group() + " in the source", false);
-        }
-        check.holds("letters 1 to 127 alone", code.chars().allMatch(c -> c > 0 && c < 128));
     }
 }
