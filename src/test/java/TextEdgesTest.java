@@ -21,6 +21,7 @@ final class TextEdgesTest {
         thingLiesOnAKerbToldAhead();
         numberIsUpTo99();
         numberHasNoZeroAhead();
+        unfitNumbersWhereverOneStands();
         emptyTextTellsNothing();
         textMayBeFull();
         textEndsTooEarly();
@@ -204,6 +205,25 @@ final class TextEdgesTest {
         fault("m02 0 0;", 1);
         fault("k0 0;d0 0 01;", 10);
         fault("k0 0;t00;", 6);
+    }
+
+    /** Above 99, or with a 0 ahead: at each place of each item, be there a kerb told or not. */
+    private static void unfitNumbersWhereverOneStands() {
+        String[] items = {"m 5 4 4 ;", "k 1 9 ;", "d 0 0 1 ;", "t 0 ;"};
+        String[] unfit = {"00", "01", "04", "000", "010", "100", "101", "256", "999", "4294967295", "4294967296"};
+        for (String item : items) {
+            String[] tokens = item.split(" ");
+            for (int which = 1; which < tokens.length - 1; which++) {
+                for (String number : unfit) {
+                    String[] changed = tokens.clone();
+                    changed[which] = number;
+                    String told = "k0 0;" + String.join(" ", changed);
+                    // Ahead of it: the first item, the letter, and as many numbers of one digit, each with a blank.
+                    fault(told, 5 + 2 * which);
+                }
+            }
+            towns("k0 0;" + item, 2);
+        }
     }
 
     private static void emptyTextTellsNothing() {
